@@ -1,0 +1,68 @@
+/** Counts the answers that are not due, prints them, and ends the test. */
+final class Check {
+    interface Call {
+        void go();
+    }
+
+    private static final int PRINTED = 40;
+    private static int asked = 0;
+    private static int wrong = 0;
+
+    private Check() {
+    }
+
+    static void due(String what, long got, long due) {
+        judge(what, got == due, String.valueOf(got), String.valueOf(due));
+    }
+
+    static void due(String what, double got, double due) {
+        judge(what, got == due, String.valueOf(got), String.valueOf(due));
+    }
+
+    static void due(String what, String got, String due) {
+        judge(what, got.equals(due), got, due);
+    }
+
+    static void due(String what, boolean got) {
+        judge(what, got, "false", "true");
+    }
+
+    static void index(String what, Call call) {
+        due(what, thrownBy(call), "IndexOutOfBoundsException");
+    }
+
+    static void argument(String what, Call call) {
+        due(what, thrownBy(call), "IllegalArgumentException");
+    }
+
+    static void state(String what, Call call) {
+        due(what, thrownBy(call), "IllegalStateException");
+    }
+
+    /** The name of just the class that a call throws. */
+    static String thrownBy(Call call) {
+        try {
+            call.go();
+        } catch (RuntimeException thrown) {
+            return thrown.getClass().getSimpleName();
+        }
+        return "nothing";
+    }
+
+    static void end(String test) {
+        System.out.println(test + ": " + (asked - wrong) + " answers are as due, " + wrong + " are not");
+        if (wrong != 0 || asked == 0) {
+            System.exit(1);
+        }
+    }
+
+    private static void judge(String what, boolean right, String got, String due) {
+        asked++;
+        if (!right) {
+            wrong++;
+            if (wrong <= PRINTED) {
+                System.out.println(what + " answered " + got + ", due is " + due);
+            }
+        }
+    }
+}
