@@ -595,11 +595,9 @@ public final class Connectory {
 
         double chance() {
             double chance = 1.0;
-            Ride ahead = first;
-            for (Ride ride = ahead == null ? null : ahead.next; ride != null; ride = ride.next) {
-                int spare = ride.departs() - ahead.arrives() - ride.changing;
+            for (Ride ahead = first; ahead != null && ahead.next != null; ahead = ahead.next) {
+                int spare = ahead.next.departs() - ahead.arrives() - ahead.next.changing;
                 chance = chance * ahead.trip.chanceWithin(spare);
-                ahead = ride;
             }
             return chance;
         }

@@ -44,9 +44,17 @@ final class Check {
         try {
             call.go();
         } catch (RuntimeException thrown) {
-            return thrown.getClass().getSimpleName();
+            return nameOf(thrown);
         }
         return "nothing";
+    }
+
+    /** The name of an exception's class, and who threw it if that was not the program's own throw. */
+    static String nameOf(RuntimeException thrown) {
+        String name = thrown.getClass().getSimpleName();
+        StackTraceElement[] calls = thrown.getStackTrace();
+        boolean own = calls.length > 0 && calls[0].getClassName().equals("Connectory");
+        return own ? name : name + " by the machine";
     }
 
     static void end(String test) {

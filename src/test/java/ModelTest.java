@@ -191,7 +191,7 @@ final class ModelTest {
                 default: return "" + program.ofBooking(a[0], a[1]);
             }
         } catch (RuntimeException thrown) {
-            return "throws." + thrown.getClass().getSimpleName();
+            return "throws." + Check.nameOf(thrown);
         }
     }
 

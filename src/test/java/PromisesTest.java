@@ -277,6 +277,16 @@ final class PromisesTest {
         shuttle(x, 2, 124, 3, 1);
         Check.due("10: on foot between", x.arrival(0, 3, 100, 2), 125);
         Check.due("10: the last time", x.arrival(0, 1, 140000, 1), 98 * 1440 + 120);
+        Connectory y = withStops(4, 5);
+        shuttle(y, 2, 100, 0, 10);
+        shuttle(y, 0, 115, 3, 10);
+        shuttle(y, 1, 117, 3, 1);
+        Check.due("10: a transfer at the stop 0", y.arrival(2, 3, 0, 2), 125);
+        y.footway(0, 1, 7);
+        Check.due("10: on foot from the stop 0", y.arrival(2, 3, 0, 2), 118);
+        Check.due("10: on foot from the stop 0 to the goal", y.arrival(2, 1, 0, 1), 117);
+        Check.due("13: the stop 0 ahead", y.ride(2, 3, 0, 2, 0, 3), 0);
+        Check.due("13: the stop 0 last", y.ride(2, 1, 0, 1, 0, 3), 0);
         wrongWays("10", (from, to, time, rides) -> x.arrival(from, to, time, rides), x, 4);
     }
 
@@ -513,6 +523,7 @@ final class PromisesTest {
         Check.due("14: bus", x.journey(1, 2, 0, 1, 1), 60.0);
         Check.due("14: boat", x.journey(2, 3, 0, 1, 1), 240.0);
         Check.due("14: all", x.journey(0, 3, 0, 3, 1), 328.0);
+        Check.due("14: from the second stop on", x.journey(4, 3, 0, 1, 1), 120.0);
         Check.due("14: score", x.journey(0, 3, 0, 3, 2), 220.0 + 45.0 + 32.8);
         Check.due("14: score of one", x.journey(2, 3, 190, 1, 2), 30.0 + 15.0 + 24.0);
         x.footway(3, 0, 8);
@@ -566,6 +577,7 @@ final class PromisesTest {
         y.calls(0, 3, 10, 0);
         y.calls(0, 4, 10, 0);
         Check.due("14: one ride is not split", y.journey(0, 4, 0, 1, 3), 239.0);
+        Check.due("14: its stops alone", y.journey(1, 4, 0, 1, 3), 130.0);
     }
 
     private static void bests() {
@@ -591,6 +603,14 @@ final class PromisesTest {
         y.calls(2, 2, 12, 0);
         Check.due("15: the same score", y.journey(0, 2, 0, 1, 2), y.journey(0, 2, 0, 2, 2));
         Check.due("15: the fewest", y.best(0, 2, 0), 1);
+        Connectory z = withStops(5, 0);
+        for (int i = 0; i < 4; i++) {
+            shuttle(z, i, 100 + 10 * i, i + 1, 10);
+        }
+        Check.due("15: by four", z.best(0, 4, 0), 4);
+        Check.due("10: by four", z.arrival(0, 4, 0, 4), 140);
+        z.delay(2, 0, 1);
+        Check.due("10: by four, the last one missed", z.arrival(0, 4, 0, 4), 1440 + 140);
         wrongWays("15", (from, to, time, rides) -> x.best(from, to, time), x, 0);
     }
 
@@ -755,6 +775,7 @@ final class PromisesTest {
         Check.due("20: by the first", x.concerned(0, 0), 1 + 2);
         Check.due("20: by the second", x.concerned(1, 0), 2 + 8);
         Check.due("20: of another day", x.concerned(0, 1), 4);
+        Check.due("20: of the last day", x.concerned(0, 99), 0);
         Check.due("20: none", x.concerned(0, 2), 0);
         x.buy(1);
         x.buy(3);
