@@ -1,3 +1,8 @@
+import java.lang.reflect.InvocationTargetException;
+import java.lang.reflect.Method;
+import java.util.Map;
+import java.util.TreeMap;
+
 /** Counts the answers that are not due, prints them, and ends the test. */
 final class Check {
     interface Call {
@@ -7,8 +12,39 @@ final class Check {
     private static final int PRINTED = 40;
     private static int asked = 0;
     private static int wrong = 0;
+    private static String test = "";
 
     private Check() {
+    }
+
+    /** Runs each test of a class: its methods named after a promise, in the order of their names. */
+    static void all(Class<?> tests) {
+        Map<String, Method> named = new TreeMap<>();
+        for (Method method : tests.getDeclaredMethods()) {
+            if (method.getName().startsWith("promise")) {
+                named.put(method.getName(), method);
+            }
+        }
+        for (Map.Entry<String, Method> each : named.entrySet()) {
+            test = each.getKey() + ": ";
+            int before = asked;
+            run(each.getValue());
+            due("it asks something", asked > before);
+        }
+        test = "";
+        System.out.println(tests.getName() + ": " + named.size() + " tests");
+        end(tests.getName());
+    }
+
+    private static void run(Method method) {
+        try {
+            method.setAccessible(true);
+            method.invoke(null);
+        } catch (InvocationTargetException thrown) {
+            due("ends", thrown.getCause().toString(), "with no exception");
+        } catch (IllegalAccessException thrown) {
+            throw new AssertionError(thrown);
+        }
     }
 
     static void due(String what, long got, long due) {
@@ -69,7 +105,7 @@ final class Check {
         if (!right) {
             wrong++;
             if (wrong <= PRINTED) {
-                System.out.println(what + " answered " + got + ", due is " + due);
+                System.out.println(test + what + " answered " + got + ", due is " + due);
             }
         }
     }
