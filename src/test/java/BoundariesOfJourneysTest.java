@@ -62,6 +62,23 @@ final class BoundariesOfJourneysTest {
         Check.due("to the first", x.arrival(9, 0, 0, 1), 210);
     }
 
+    private static void promise10FirstAndLastStopBetween() {
+        Connectory x = Worlds.stops(10, 5);
+        Worlds.line(x, 4, 100, 0, 10);
+        Worlds.line(x, 0, 115, 9, 10);
+        Worlds.line(x, 9, 130, 5, 10);
+        Check.due("by transfers there", x.arrival(4, 5, 0, 3), 140);
+        Check.due("by one of them", x.arrivalAnew(4, 9, 0, 2), 125);
+        Connectory y = Worlds.stops(10, 5);
+        y.footway(0, 9, 6);
+        Worlds.line(y, 4, 100, 0, 10);
+        Worlds.line(y, 9, 116, 5, 10);
+        Check.due("by a footway from the first to the last", y.arrival(4, 5, 0, 2), 126);
+        Check.due("behind the ride", y.arrival(4, 9, 0, 1), 116);
+        Check.due("by trying too", y.arrivalAnew(4, 9, 0, 1), 116);
+        Check.due("ahead of the ride", y.arrival(0, 5, 110, 1), 126);
+    }
+
     private static void promise10FirstAndLastTime() {
         Connectory x = Worlds.chain(1);
         firstAndLastTime((from, to, time, rides) -> x.arrival(from, to, time, rides));
@@ -648,6 +665,7 @@ final class BoundariesOfJourneysTest {
             double each = mode == 0 ? 14.0 : mode == 1 ? 30.0 : 120.0;
             for (int stops = 1; stops < 6; stops++) {
                 Check.due("mode " + mode + ", " + stops, x.journey(0, stops, 0, 1, 1), each * stops);
+                Check.due("to the last, " + stops, x.journey(5 - stops, 5, 0, 1, 1), each * stops);
             }
         }
     }
