@@ -91,6 +91,7 @@ final class LanguageTest {
             fields += Modifier.isStatic(field.getModifiers()) ? 0 : 1;
             Check.due("5: final " + field, !Modifier.isStatic(field.getModifiers())
                 || Modifier.isFinal(field.getModifiers()));
+            type(field);
         }
         Check.due("11: fields of " + each, fields <= 20);
         Set<String> names = new TreeSet<>();
@@ -106,6 +107,14 @@ final class LanguageTest {
             Check.due("1: private and static " + each, Modifier.isPrivate(each.getModifiers())
                 && Modifier.isStatic(each.getModifiers()) && each.getDeclaredClasses().length == 0);
         }
+    }
+
+    private static void type(Field field) {
+        String type = field.getType().getName();
+        boolean constant = List.of("int", "long", "boolean", "char", "java.lang.String", "[I", "[J", "[C", "[B")
+            .contains(type);
+        boolean held = type.startsWith("Connectory$") || List.of("double", "[Z", "java.util.ArrayList").contains(type);
+        Check.due("3, 5: type of " + field, constant || held && !Modifier.isStatic(field.getModifiers()));
     }
 
     /** The methods outside the class that its constant pool names. */
@@ -148,6 +157,26 @@ final class LanguageTest {
         }
     }
 
+    /** An element is read or written just where the line, or the one ahead of it, looks at the index. */
+    private static void elements(String text) {
+        Pattern element = Pattern.compile("(\\w+)\\[(\\w+)\\]");
+        String[] lines = text.split("\n");
+        int found = 0;
+        for (int i = 1; i < lines.length; i++) {
+            Matcher each = element.matcher(lines[i]);
+            // A length in brackets, as MOST_NOTES is, makes an array.
+            while (each.find() && !lines[i].contains("new ")) {
+                found++;
+                String looked = lines[i - 1] + lines[i];
+                String index = each.group(2);
+                String most = index + " < " + each.group(1) + ".length";
+                Check.due("7: index in line " + (i + 1), looked.contains(most)
+                    && (looked.contains(index + " >= 0") || looked.contains("int " + index + " = 0")));
+            }
+        }
+        Check.due("7: elements are found", found >= 4);
+    }
+
     private static void source(String text) {
         for (String word : RULED_OUT) {
             Matcher found = Pattern.compile(word).matcher(text);
@@ -158,6 +187,7 @@ final class LanguageTest {
                 Check.due("3: sign at " + i, false);
             }
         }
+        elements(text);
         Matcher thrown = Pattern.compile("throw (?!new (IndexOutOfBounds|IllegalArgument|IllegalState)Exception\\(\")")
             .matcher(text);
         Check.due("6: thrown", !thrown.find());
