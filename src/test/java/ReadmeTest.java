@@ -15,7 +15,8 @@ import java.util.regex.Pattern;
 /** What README.md shows: its program answers as it says there, its table is the face's, its commands pass. */
 final class ReadmeTest {
     private static final Path OUT = Path.of("build", "readme");
-    private static final Pattern ASKED = Pattern.compile("(?:(int|boolean|double) (\\w+) = )?(x\\.\\w+\\(.*\\)); +// (.*)");
+    private static final Pattern ASKED =
+        Pattern.compile("(?:(int|boolean|double) (\\w+) = )?(x\\.\\w+\\(.*\\)); +// (.*)");
     private static final Pattern MADE = Pattern.compile("Connectory x = new Connectory\\(\\);|x\\.prices\\([^)]*\\);");
     private static final String THROWS = "throws ";
     private static final String[] EXCEPTIONS =
